@@ -463,6 +463,7 @@ public final class ModelTest {
     static int calls;
     static int wrong;
     static final int[] faults = new int[6];
+    static int mostNew;
 
     static int call(String name, int a, int b, int c) {
         if (calls >= 512) return 0;
@@ -507,6 +508,7 @@ public final class ModelTest {
         }
         log.add(name + "(" + a + ", " + b + ", " + c + ") = " + got);
         if (name.equals("unify") && due >= 0) faults[due]++;
+        mostNew = Math.max(mostNew, model.newHoles.size());
         if (got != due) {
             wrong++;
             if (wrong <= 3) {
@@ -553,7 +555,8 @@ public final class ModelTest {
     static void readWhole(int slot) {
         int n = call("read", slot, 0, 0);
         call("count", 5, 0, 0);
-        for (int i = 0; i < n && i < 60; i++) call("item", i, 0, 0);
+        int all = model.lastRead.size();
+        for (int i = 0; i < n && i < 40; i++) call("item", n > 40 ? pick(all) : i, 0, 0);
         call("item", n, 0, 0);
     }
 
@@ -570,7 +573,7 @@ public final class ModelTest {
             int b = pick(4) - 1;
             call("operation", a, b, b < 0 ? -1 : pick(4) - 1);
         }
-        int holes = 1 + pick(10);
+        int holes = pick(4) == 0 ? 24 : 1 + pick(10);
         for (int i = 0; i < holes; i++) call("hole", pick(5), 0, 0);
         for (int round = 0; calls < 512 && round < 30; round++) {
             int depth = pick(5);
@@ -582,13 +585,13 @@ public final class ModelTest {
                 putTerm(s, pick(5) == 0 ? shape + 1 : shape, pick(1 << 30), cutOf10, 1, depth, height);
             }
             call("isSame", 0, 1, 0);
-            int fault = call("unify", pick(3), pick(3), 0);
-            fault = call("unify", 0, 1, 0);
+            call("unify", pick(3), pick(3), 0);
+            call("unify", 0, 1, 0);
             call("isSame", 0, 1, 0);
             if (pick(3) == 0) readWhole(pick(3));
             if (pick(3) == 0) lookAtAll();
             if (pick(4) == 0) strayCall();
-            if (pick(fault == 0 ? 4 : 3) == 0) call("empty", 0, 0, 0);
+            if (pick(holes == 24 ? 40 : 4) == 0) call("empty", 0, 0, 0);
         }
     }
 
@@ -662,12 +665,51 @@ public final class ModelTest {
         }
     }
 
+    static void putHole(int slot, int h, int turn, int swapAt) {
+        call("put", slot, 2, h);
+        for (int i = 0; i < model.told.get(h); i++) call("put", slot, 0, i == swapAt ? 5 : (turn + i) % 5);
+    }
+
+    /** Holes against holes that differ by little, so that many new holes come one out of the other. */
+    static void runNarrowing(long number) {
+        seed = number * 32452843 + 9;
+        model = new Model();
+        real = new HoleFiller();
+        log = new ArrayList<>();
+        calls = 0;
+        call("operation", pick(3), pick(3), -1);
+        for (int i = 0; i < 24; i++) call("hole", 2 + pick(3), 0, 0);
+        for (int round = 0; calls < 440; round++) {
+            int width = 1 + pick(2);
+            int turn = pick(5);
+            boolean same = pick(4) > 0;
+            int[] chosen = {pick(24), pick(24)};
+            for (int s = 0; s < 2; s++) {
+                call("begin", s, 6, 0);
+                if (width == 2) call("put", s, 1, 0);
+                for (int i = 0; i < width; i++) putHole(s, same || s == 0 ? chosen[i] : pick(24), turn, pick(6));
+            }
+            call("unify", 0, 1, 0);
+            call("count", 2 + pick(2), 0, 0);
+            call("uses", chosen[0], 0, 0);
+        }
+        call("begin", 2, 6, 0);
+        call("put", 2, 1, 0);
+        for (int i = 0; i < 2; i++) putHole(2, pick(24), pick(5), 9);
+        readWhole(2);
+        call("count", 3, 0, 0);
+        call("empty", 0, 0, 0);
+        call("count", 2, 0, 0);
+        readWhole(2);
+    }
+
     public static void main(String[] args) {
         int runs = args.length > 0 ? Integer.parseInt(args[0]) : 1500;
         for (int i = 0; i < runs && wrong < 20; i++) {
             runOne(i);
             runStray(i);
             runGrowing(i);
+            runNarrowing(i);
         }
         for (int fault = 0; fault < 5; fault++) {
             if (faults[fault] == 0) {
@@ -675,7 +717,7 @@ public final class ModelTest {
                 System.out.println("no unifying came to " + fault);
             }
         }
-        System.out.println("unifyings by their answer: " + Arrays.toString(faults));
+        System.out.println("unifyings by their answer: " + Arrays.toString(faults) + ", at most " + mostNew + " new holes");
         System.out.println(wrong == 0 ? "all answers are as the model's" : wrong + " answers are not as the model's");
         if (wrong != 0) System.exit(1);
     }

@@ -234,7 +234,7 @@ public final class PromiseTest {
 
     private static void putToTheVariables() {
         HoleFiller x = desk();
-        x.operation(0, 2, 1);
+        x.operation(1, 2, 1);
         x.begin(0, 6);
         for (int i = 0; i < 2; i++) due("bind two", 1, () -> x.put(0, 1, 3));
         due("bind one: 11 variables", 1, () -> x.put(0, 1, 2));
@@ -242,11 +242,12 @@ public final class PromiseTest {
         due("another argument that binds two", -1, () -> x.put(0, 1, 5));
         due("bind one: 12 variables", 1, () -> x.put(0, 1, 2));
         due("bind one: 13 variables", -1, () -> x.put(0, 1, 2));
-        due("pair", 2, () -> x.put(0, 1, 1));
+        due("three that bind none", 3, () -> x.put(0, 1, 4));
         due("variable 12", IAE, () -> x.put(0, 0, 12));
-        due("variable 11", 1, () -> x.put(0, 0, 11));
-        due("variable 0", 0, () -> x.put(0, 0, 0));
-        reads(x, 0, "o3 o3 o2 o2 o1 v11 v0");
+        due("variable 11", 2, () -> x.put(0, 0, 11));
+        due("variable 0", 1, () -> x.put(0, 0, 0));
+        due("c", 0, () -> x.put(0, 1, 0));
+        reads(x, 0, "o3 o3 o2 o2 o4 v11 v0 o0");
         x.begin(1, 0);
         for (int i = 0; i < 6; i++) due("bind two", 1, () -> x.put(1, 1, 3));
         due("bind two: 14 variables", -1, () -> x.put(1, 1, 3));
@@ -472,6 +473,42 @@ public final class PromiseTest {
         due("a clash ahead of too large", 1, () -> x.unify(4, 5));
     }
 
+    /** 22 holes of 76 items each, two times, most of them read in one term. */
+    private static void unifyMuch() {
+        part = "promise 6, much of it";
+        HoleFiller x = desk();
+        for (int h = 0; h < 24; h++) x.hole(h == 23 ? 0 : 1);
+        StringBuilder of25 = new StringBuilder();
+        for (int i = 0; i < 12; i++) of25.append("o1 o0 ");
+        of25.append("h23");
+        String of76 = ("o4 " + of25 + " " + of25 + " " + of25).replace("h23", "h0");
+        term(x, 0, 1, "h0 v0");
+        term(x, 1, 1, of25.toString());
+        x.begin(2, 1);
+        for (int i = 0; i < 9; i++) x.put(2, 1, 4);
+        for (int i = 0; i < 19; i++) {
+            x.put(2, 2, i + 1);
+            x.put(2, 0, 0);
+        }
+        for (int round = 0; round < 2; round++) {
+            due("unify", 0, () -> x.unify(0, 1));
+            term(x, 4, 1, "o4 h0 v0 h0 v0 h0 v0");
+            for (int h = 1; h < 23; h++) {
+                term(x, 3, 1, "h" + h + " v0");
+                due("unify", 0, () -> x.unify(3, 4));
+            }
+            for (int h = 1; h < 23; h++) {
+                int hole = h;
+                due("size", 76, () -> x.size(hole));
+            }
+            StringBuilder all = new StringBuilder("o4 o4 o4 o4 o4 o4 o4 o4 o4");
+            for (int i = 0; i < 19; i++) all.append(' ').append(of76);
+            reads(x, 2, all.toString());
+            due("empty()", 23, x::empty);
+        }
+        reads(x, 0, "h0 v0");
+    }
+
     private static void read() {
         part = "promise 7";
         HoleFiller x = desk(3, 2, 0);
@@ -639,6 +676,7 @@ public final class PromiseTest {
         unifyNarrows();
         unifyGoesOn();
         unifyGrows();
+        unifyMuch();
         read();
         item();
         isSame();
