@@ -462,6 +462,22 @@ public final class PuttingEdgesTest {
         Check.due("it is not whole", ISE, x.read(1));
     }
 
+    /** Variables and holes count as items as operations do. */
+    private static void sizeOfEachSort() {
+        Desk x = Desk.with(0, 1);
+        String[] leaves = {"o0", "v0", "h0", "h1 v0"};
+        for (String leaf : leaves) {
+            x.begin(0, 1);
+            x.putAll(0, times(14, "o1 " + leaf));
+            Check.due("item 29 is " + leaf, 0, x.putAll(0, leaf));
+            x.begin(0, 1);
+            x.putAll(0, "o2 o2 " + times(14, "o1 " + leaf));
+            for (String item : new String[] {"o0", "v0", "h0", "h1"}) {
+                Check.due(item + " as item 31, with 14 times " + leaf, NONE, x.put(0, item));
+            }
+        }
+    }
+
     private static void sizeThirtyOneChangesNothing() {
         Desk x = Desk.with(2, 0);
         x.begin(0, 2);
@@ -525,6 +541,25 @@ public final class PuttingEdgesTest {
         Check.due("12 in every argument", 3, x.put(0, 1, 4));
         for (int f = 0; f <= 4; f++) Check.due("13 or 14 in one", NONE, x.put(0, 1, f));
         Check.due("variable 11", 2, x.put(0, 0, 11));
+    }
+
+    /** What operations bind that were told before and after this one has no part in it. */
+    private static void twelveBesideOthers() {
+        Desk x = new Desk();
+        x.operation(2, 2, 2);
+        x.operation(0, 0, 0);
+        x.operation(2, 2, 2);
+        x.operation(0, -1, -1);
+        x.operation(2, 2, 2);
+        x.operation(-1, -1, -1);
+        x.operation(2, 2, 2);
+        x.begin(0, 6);
+        for (int i = 0; i < 3; i++) x.put(0, 1, 0);
+        Check.due("14 variables", NONE, x.put(0, 1, 0));
+        Check.due("12 variables in three arguments", 9, x.put(0, 1, 1));
+        Check.due("12 variables in one argument", 9, x.put(0, 1, 3));
+        Check.due("no argument", 8, x.put(0, 1, 5));
+        Check.due("variable 11", 7, x.put(0, 0, 11));
     }
 
     private static void thirteenChangesNothing() {
@@ -591,11 +626,13 @@ public final class PuttingEdgesTest {
         Check.edge(5, "variables of a hole under bound ones", PuttingEdgesTest::variablesOfAHoleUnderBound);
         Check.edge(5, "how many items are due", PuttingEdgesTest::howManyAreDue);
         Check.edge(5, "NONE when its size would be above 30", PuttingEdgesTest::sizeThirty);
+        Check.edge(5, "above 30, with items of each sort", PuttingEdgesTest::sizeOfEachSort);
         Check.edge(5, "above 30, changing nothing", PuttingEdgesTest::sizeThirtyOneChangesNothing);
         Check.edge(5, "30 items without the variables of holes", PuttingEdgesTest::sizeWithoutVariablesOfHoles);
         Check.edge(5, "NONE when an argument would have more than 12 variables", PuttingEdgesTest::thirteenVariables);
         Check.edge(5, "more than 12, from 11 on", PuttingEdgesTest::thirteenFromEleven);
         Check.edge(5, "more than 12 in one of the arguments", PuttingEdgesTest::thirteenInOneArgument);
+        Check.edge(5, "12 beside operations that bind more", PuttingEdgesTest::twelveBesideOthers);
         Check.edge(5, "more than 12, changing nothing", PuttingEdgesTest::thirteenChangesNothing);
         Check.edge(5, "a put that is refused", PuttingEdgesTest::refusedChangesNothing);
         Check.end();

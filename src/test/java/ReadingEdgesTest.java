@@ -140,6 +140,25 @@ public final class ReadingEdgesTest {
         Check.reads(x, 2, times(73, "o3") + "v151");
     }
 
+    /**
+     * Each hole loses its two parameters one by one and then has the next one: 66 fillings stand one
+     * within the other. There is only one operation, which binds two, for calls are few.
+     */
+    private static void alongManyFillings() {
+        Desk x = new Desk();
+        x.operation(2, -1, -1);
+        for (int h = 0; h < 23; h++) x.hole(2);
+        for (int h = 0; h < 22; h++) {
+            Check.due("hole " + h + " loses one", 0, unified(x, 3, "h" + h + " v0 v1", "h" + h + " v2 v1"));
+            x.term(1, 3, "h" + h + " v0 v2");
+            Check.due("hole " + h + " loses the other", 0, x.unify(0, 1));
+            x.term(1, 3, "o0 h" + (h + 1) + " v1 v0");
+            Check.due("hole " + h + " has the next one", 0, x.unify(0, 1));
+        }
+        x.term(0, 3, "h0 v0 v1");
+        Check.reads(x, 0, times(22, "o0") + "h0 v0 v1");
+    }
+
     /** 19 times 80 items, in which 51 holes have four variables each. */
     private static void theLargest() {
         Desk x = Desk.with(4, 4, 4, 4, 4);
@@ -152,9 +171,18 @@ public final class ReadingEdgesTest {
         int items = 11 + 19 * (80 + 4 * 51);
         Check.due("read", items, x.read(2));
         Check.counts(x, 4, items, 1);
-        Check.due("the last item: variable 5, three bound ones further in", 4 * (5 + 3), x.item(items - 1));
-        Check.due("the last hole", 2, x.item(items - 5));
         Check.due("item behind the last one", IOOBE, x.item(items));
+        String of26 = "o3 " + times(8, "o4") + times(17, "h0 v5 v6 v7 v8");
+        String[] all = (times(2, "o2") + times(9, "o4") + times(19, "o2 o4 " + times(3, of26))).trim().split(" +");
+        for (int i = 0; i < items; i += 41) itemIs(x, i, all[i]);
+        for (int i = 128; i < items; i *= 2) {
+            for (int near = i - 1; near <= i + 1; near++) itemIs(x, near, all[near]);
+        }
+        for (int i = items - 40; i < items; i++) itemIs(x, i, all[i]);
+    }
+
+    private static void itemIs(Desk x, int i, String item) {
+        Check.due("item(" + i + ")", 4 * Integer.parseInt(item.substring(1)) + "voh".indexOf(item.charAt(0)), x.item(i));
     }
 
     // Promise 8: item
@@ -261,6 +289,18 @@ public final class ReadingEdgesTest {
         x.term(1, 2, "o0");
         x.term(2, 2, "o5");
         Check.due("operations", 0, x.isSame(1, 2));
+    }
+
+    private static void oneVariableDiffers() {
+        Desk x = Desk.with(4);
+        x.term(0, 5, "h0 v0 v1 v2 v3");
+        for (int k = 0; k < 4; k++) {
+            x.term(1, 5, "h0 v0 v1 v2 v3".replace("v" + k, "v4"));
+            Check.due("variable " + k + " is another one", 0, x.isSame(0, 1));
+            Check.due("variable " + k + " is another one", 0, x.isSame(1, 0));
+        }
+        x.term(1, 5, "h0 v0 v1 v2 v3");
+        Check.due("none is another one", 1, x.isSame(0, 1));
     }
 
     private static void isSameChangesNothing() {
@@ -544,6 +584,49 @@ public final class ReadingEdgesTest {
         Check.due("calls", 512, x.calls());
     }
 
+    /** Eighteen large fillings in each unifying, which a fault or empty takes away again. */
+    private static void fiveHundredAndTwelveLargeOnes() {
+        Desk x = Desk.with(4, 4, 4);
+        for (int h = 3; h < 22; h++) x.hole(4);
+        String under = "h0 v2 v3 v4 v5 ";
+        x.term(0, 4, "h1 v0 v1 v2 v3");
+        x.term(1, 4, "o3 " + times(8, "o4") + times(17, under));
+        x.term(2, 4, "h2 v0 v1 v2 v3");
+        x.term(3, 4, "o2 o4" + times(3, " h1 v1 v2 v3 v4"));
+        StringBuilder open = new StringBuilder(times(9, "o4"));
+        for (int h = 3; h < 21; h++) open.append("h").append(h).append(" v0 v1 v2 v3 ");
+        x.term(4, 4, open + "h21 v0 v1 v2 v3");
+        x.term(5, 4, times(9, "o4") + times(19, "h2 v3 v2 v1 v0"));
+        while (x.calls() < 490) {
+            Check.due("26", 0, x.unify(0, 1));
+            Check.due("80", 0, x.unify(2, 3));
+            Check.due("all", 0, x.unify(4, 5));
+            Check.due("isSame", 1, x.isSame(4, 5));
+            Check.due("empty", 21, x.empty());
+        }
+        Check.due("isSame", 0, x.isSame(4, 5));
+        Check.due("size(20)", 1, x.size(20));
+    }
+
+    private static void fiveHundredAndTwelveFaults() {
+        Desk x = Desk.with(4, 4, 4);
+        for (int h = 3; h < 21; h++) x.hole(4);
+        Check.due("26", 0, unified(x, 4, "h1 v0 v1 v2 v3", "o3 " + times(8, "o4") + times(17, "h0 v2 v3 v4 v5")));
+        Check.due("80", 0, unified(x, 4, "h2 v0 v1 v2 v3", "o2 o4" + times(3, " h1 v1 v2 v3 v4")));
+        StringBuilder open = new StringBuilder(times(9, "o4"));
+        for (int h = 3; h < 21; h++) open.append("h").append(h).append(" v0 v1 v2 v3 ");
+        x.term(0, 4, open + "o0");
+        x.term(1, 4, times(9, "o4") + times(18, "h2 v3 v2 v1 v0") + "o5");
+        x.term(2, 4, "h20 v0 v1 v2 v3");
+        x.term(3, 4, "h2 v3 v2 v1 v0");
+        while (x.calls() < 500) Check.due("a fault behind 18 fillings", 1, x.unify(0, 1));
+        Check.counts(x, 2, 0, 2);
+        Check.due("size(20)", 1, x.size(20));
+        Check.due("unify", 0, x.unify(2, 3));
+        Check.due("size(20)", 80, x.size(20));
+        Check.due("isSame", 1, x.isSame(2, 3));
+    }
+
     public static void main(String[] args) {
         Check.edge(7, "how many items it has then, with variables of holes", ReadingEdgesTest::howManyItems);
         Check.edge(7, "throws as unify: no such slot", ReadingEdgesTest::slotsOfRead);
@@ -554,6 +637,7 @@ public final class ReadingEdgesTest {
         Check.edge(7, "the order in which the variables at the first place rise", ReadingEdgesTest::inTheOrderThatRises);
         Check.edge(7, "the first place in this reading", ReadingEdgesTest::orderOfEachReading);
         Check.edge(7, "with all fillings, as far as they go", ReadingEdgesTest::asFarAsFillingsGo);
+        Check.edge(7, "along many fillings, as far as they go", ReadingEdgesTest::alongManyFillings);
         Check.edge(7, "the largest terms", ReadingEdgesTest::theLargest);
 
         Check.edge(8, "IndexOutOfBoundsException before any reading", ReadingEdgesTest::itemBeforeAnyReading);
@@ -564,6 +648,7 @@ public final class ReadingEdgesTest {
         Check.edge(9, "throws as unify", ReadingEdgesTest::isSameThrows);
         Check.edge(9, "throws as unify: other depths", ReadingEdgesTest::isSameOfOtherDepths);
         Check.edge(9, "whether the terms of two slots are the same", ReadingEdgesTest::whetherTheyAreTheSame);
+        Check.edge(9, "the same but for one variable of a hole", ReadingEdgesTest::oneVariableDiffers);
         Check.edge(9, "whether they are, changing nothing", ReadingEdgesTest::isSameChangesNothing);
         Check.edge(9, "with all fillings", ReadingEdgesTest::sameWithAllFillings);
 
@@ -588,6 +673,8 @@ public final class ReadingEdgesTest {
         Check.edge(13, "4 and 5, of the term that was read latest", ReadingEdgesTest::countOfWhatWasRead);
         Check.edge(13, "6 and 7, since the beginning", ReadingEdgesTest::countOfUnifyings);
         Check.edge(13, "an object is used for at most 512 calls", ReadingEdgesTest::fiveHundredAndTwelve);
+        Check.edge(12, "512 calls with large fillings", ReadingEdgesTest::fiveHundredAndTwelveLargeOnes);
+        Check.edge(6, "512 calls with faults behind large fillings", ReadingEdgesTest::fiveHundredAndTwelveFaults);
         Check.end();
     }
 }

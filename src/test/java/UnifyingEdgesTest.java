@@ -289,6 +289,83 @@ public final class UnifyingEdgesTest {
         Check.due("uses(0)", 0, x.uses(0));
     }
 
+    private static void whatStandsBehindTheTerm() {
+        Desk x = Desk.with(0, 0, 1);
+        Check.due("a variable behind it", 0, unified(x, 2, "o1 h0 v1", "o1 o0 v1"));
+        x.empty();
+        Check.due("the hole behind it", 0, unified(x, 2, "o1 h0 h0", "o1 o1 o0 o5 h0"));
+        Check.due("size(0)", 3, x.size(0));
+        x.empty();
+        Check.due("a variable behind it, further out", 0, unified(x, 2, "o4 o2 h0 v0 h1", "o4 o2 o2 v0 v0 o2 v0"));
+        Check.due("size(0)", 2, x.size(0));
+        Check.due("size(1)", 2, x.size(1));
+        x.empty();
+        Check.due("another hole behind it keeps its own", 0, unified(x, 2, "o1 h0 h2 v1", "o1 o0 h2 v1"));
+        Check.due("uses(2)", 1, x.uses(2));
+        Check.counts(x, 2, 0, 1);
+    }
+
+    private static void foreignBehindBinders() {
+        Desk x = Desk.with(1, 1);
+        Check.due("a term with binders", 0, unified(x, 3, "h1 v0", "o3 o3 o1 v0 v4"));
+        Check.due("then a variable that is not of x", 2, unified(x, 3, "h0 v0", "v1"));
+        Check.due("then a variable that is of x", 0, unified(x, 3, "h0 v1", "v1"));
+    }
+
+    /** Hole 1 is a pair of its parameters, hole 2 has it under a binder, hole 3 further to the left. */
+    private static Desk withFillings() {
+        Desk x = Desk.with(1, 2, 1, 1, 2);
+        Check.due("hole 1", 0, unified(x, 4, "h1 v0 v1", "o1 v0 v1"));
+        Check.due("hole 2", 0, unified(x, 4, "h2 v3", "o2 h1 v4 v0"));
+        Check.due("hole 3", 0, unified(x, 4, "h3 v1", "o1 h2 v1 o0"));
+        Check.counts(x, 2, 0, 3);
+        return x;
+    }
+
+    private static void foreignInFillings() {
+        Desk x = withFillings();
+        Check.due("the second of a pair", 2, unified(x, 4, "h0 v0", "h1 v0 v1"));
+        Check.due("the first of a pair", 2, unified(x, 4, "h0 v1", "h1 v0 v1"));
+        Check.due("under a binder", 2, unified(x, 4, "h0 v3", "h2 v2"));
+        Check.due("under a binder, bound above", 2, unified(x, 4, "o3 h0 v1", "o3 h2 v0"));
+        Check.due("two fillings in", 2, unified(x, 4, "o1 h0 v2 o0", "h3 v1"));
+        Check.due("an argument of a filling", 2, unified(x, 4, "o1 o2 h0 v0 o0", "h3 v1"));
+        Check.due("the second argument of a filling", 2, unified(x, 4, "o2 o1 v2 h0 v2", "h2 v1"));
+        Check.counts(x, 2, 0, 3);
+    }
+
+    private static void noneForeignInFillings() {
+        Desk x = withFillings();
+        Check.due("under a binder", 0, unified(x, 4, "h0 v3", "h2 v3"));
+        x.term(2, 4, "h0 v1");
+        Check.reads(x, 2, "o2 o1 v2 v0");
+        x = withFillings();
+        Check.due("under a binder, bound above", 0, unified(x, 4, "o3 h0 v0", "o3 h2 v0"));
+        x.term(2, 4, "h0 v1");
+        Check.reads(x, 2, "o2 o1 v2 v0");
+        x = withFillings();
+        Check.due("two fillings in", 0, unified(x, 4, "o1 h0 v2 o0", "h3 v2"));
+        x.term(2, 4, "o1 h0 v3 h3 v0");
+        Check.reads(x, 2, "o1 o2 o1 v4 v0 o1 o2 o1 v1 v0 o0");
+        x = withFillings();
+        Check.due("the bound one of a filling", 0, unified(x, 4, "o2 o1 v2 h0 v0", "h2 v1"));
+        Check.due("the other one", 0, unified(x, 4, "o2 h4 v0 v3", "h2 v2"));
+        x.term(2, 4, "o1 h0 v3 h4 v2 v1");
+        Check.reads(x, 2, "o1 v3 o1 v1 v2");
+    }
+
+    private static void narrowedInFillings() {
+        Desk x = Desk.with(1, 2, 2);
+        Check.due("hole 1 has hole 2", 0, unified(x, 4, "h1 v0 v1", "o2 o1 h2 v1 v2 v0"));
+        Check.due("hole 0 can't have the second one", 0, unified(x, 4, "h0 v3", "o2 h1 v4 v1"));
+        Check.due("uses(2)", 1, x.uses(2));
+        Check.due("uses(1)", 1, x.uses(1));
+        Check.due("uses(0)", 1, x.uses(0));
+        Check.counts(x, 2, 1, 3);
+        Check.reads(x, 0, "o2 o2 o1 h0 v5 v0");
+        Check.due("isSame", 1, x.isSame(0, 1));
+    }
+
     private static void holeWithinItself() {
         Desk x = Desk.with(1, 1, 1);
         Check.due("as the only argument", 3, unified(x, 2, "h0 v0", "o2 h0 v1"));
@@ -565,6 +642,11 @@ public final class UnifyingEdgesTest {
         Check.edge(6, "free in t and not one of x: fault 2", UnifyingEdgesTest::holeAndForeignVariable);
         Check.edge(6, "those that are not bound within are free", UnifyingEdgesTest::boundWithinIsNotFree);
         Check.edge(6, "those that are bound above t are free in t", UnifyingEdgesTest::boundAboveIsFree);
+        Check.edge(6, "t is gone through, and nothing behind it", UnifyingEdgesTest::whatStandsBehindTheTerm);
+        Check.edge(6, "fault 2, behind a term with binders", UnifyingEdgesTest::foreignBehindBinders);
+        Check.edge(6, "fault 2 in what fills holes of t", UnifyingEdgesTest::foreignInFillings);
+        Check.edge(6, "no fault 2 in what fills holes of t", UnifyingEdgesTest::noneForeignInFillings);
+        Check.edge(6, "another hole in what fills holes of t", UnifyingEdgesTest::narrowedInFillings);
         Check.edge(6, "h: fault 3", UnifyingEdgesTest::holeWithinItself);
         Check.edge(6, "from the left to the right", UnifyingEdgesTest::fromTheLeft);
         Check.edge(6, "another hole, none of whose variables is foreign", UnifyingEdgesTest::anotherHoleKeepsAll);
